@@ -994,12 +994,15 @@ public final class LakeBreath {
 
         private void turnOver() {
             int from = 1;
+            int mixed = NONE;
             for (int turn = 0; turn < TURNS_A_DAY; turn++) {
                 int lighter = firstLighter(from);
-                if (lighter == NONE) {
+                // A pair that is lighter still as soon as it is mixed stays as it is, whatever turns are left.
+                if (lighter == NONE || lighter == mixed) {
                     return;
                 }
                 mixPair(lighter);
+                mixed = lighter;
                 // Of the pairs above only the next one has changed.
                 from = Math.max(1, lighter - 1);
             }

@@ -133,6 +133,12 @@ public final class LakesTest {
         Due.be("HOLDS 0, gas", x.full(1, false), 999);
         x.reading(1, 2, 1);
         Due.be("HOLDS 0, told gas", x.full(1, true), 999);
+        LakeBreath y = new LakeBreath();
+        y.reading(1, 0, 1500);
+        y.reading(1, 9, 11000);
+        Due.be("told of LAYER 0", y.full(1, true), 150);
+        y.reading(1, 9, 16000);
+        Due.be("told of LAYER 9", y.full(1, true), 160);
     }
 
     private static void led() {
@@ -192,6 +198,13 @@ public final class LakesTest {
         x.pass(1);
         Due.be("below its LIFT it stops", x.pipeOf(0, 2), 0);
         Due.be("and lets off no more", x.pipeOf(0, 3), 999);
+        Due.be("nor is anything led so", x.led(0, 1), x.pipeOf(0, 3) + x.pipeOf(1, 3));
+        LakeBreath y = new LakeBreath();
+        y.pipe(0, 0, 100, 0);
+        y.start(0);
+        y.layer(0, 0, 50, 0, 0);
+        y.pass(1);
+        Due.be("a PIPE at LAYER 0", y.pipeOf(0, 3), 5);
         x.layer(0, 5, 1999, 0, 0);
         x.pass(1);
         Due.be("it doesn't start by itself", x.pipeOf(0, 3), 999);
@@ -315,6 +328,7 @@ public final class LakesTest {
         Due.be("one DAY more", x.burst(1), 1);
         Due.be("the DAY itself", x.pass(1), 1);
         pipeAhead();
+        layersAhead();
         lastDayAhead();
     }
 
@@ -334,6 +348,22 @@ public final class LakesTest {
         LakeBreath y = new LakeBreath();
         y.set(1, 2, 2000);
         Due.be("as without it", x.burst(1), y.burst(1));
+    }
+
+    /** What LAYERS have counts AHEAD: LAYER 0, and WARMTH, too. */
+    private static void layersAhead() {
+        LakeBreath x = steady();
+        x.layer(0, 0, 2000, 0, 0);
+        Due.be("LAYER 0", x.burst(0), 1);
+        Due.be("LAYER 0", x.burst(1), -2);
+        LakeBreath y = steady();
+        y.set(0, 3, 1000);
+        y.layer(0, 4, 4900, 0, 400);
+        y.layer(0, 5, 5900, 0, 400);
+        Due.be("not lighter", y.burst(0), -2);
+        y.layer(0, 5, 5900, 200, 400);
+        Due.be("by WARMTH it is", y.burst(0), 1);
+        Due.be("until", y.until(0, 99), -2);
     }
 
     private static void lastDayAhead() {
@@ -358,12 +388,24 @@ public final class LakesTest {
             Due.be("not in 360", x.pass(60), 0);
         }
         Due.be("not in 365", x.pass(5), 0);
-        LakeBreath y = new LakeBreath();
-        y.set(0, 2, 9);
-        y.set(0, 3, 1000);
-        y.set(0, 0, low - 1);
-        int days = y.burst(0);
-        Due.be("by 365", days >= 1 && days <= 365, true);
+        exactlyLastDay();
+    }
+
+    /** With a MIX of 1,000 and less GAS than that nothing goes up: one more each DAY. */
+    private static void exactlyLastDay() {
+        LakeBreath x = steady();
+        x.set(0, 3, 1000);
+        x.set(0, 0, 50);
+        x.set(0, 2, 1);
+        x.layer(0, 9, 135, 0, 900);
+        Due.be("FULL on the 365th", x.until(0, 100), 365);
+        x.layer(0, 9, 134, 0, 900);
+        Due.be("FULL on the 366th", x.until(0, 100), -2);
+        x.layer(0, 9, 136, 0, 900);
+        Due.be("FULL on the 364th", x.until(0, 100), 364);
+        Due.be("HOLDS 500, 501 on the 365th", x.burst(0), 365);
+        x.layer(0, 9, 135, 0, 900);
+        Due.be("501 on the 366th", x.burst(0), -2);
     }
 
     private static void until() {

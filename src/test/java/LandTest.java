@@ -9,6 +9,7 @@ public final class LandTest {
         village();
         climb();
         climbHeights();
+        climbSides();
         lost();
         moved();
         Due.end();
@@ -95,6 +96,18 @@ public final class LandTest {
         y.runOut(0, 400);
         Due.be("no way over the edge", y.arrives(20), -2);
         Due.be("along the edge", y.arrives(18), 1);
+        y.height(18, 300);
+        y.height(39, 300);
+        Due.be("at the right edge", y.runOut(0, 400), 1);
+        y.set(0, 4, 20);
+        for (int c : new int[] {0, 21, 40}) {
+            y.height(c, 300);
+        }
+        Due.be("at the left edge", y.runOut(0, 400), 1);
+        y.height(40, 0);
+        Due.be("downwards", y.runOut(0, 200), 2);
+        Due.be("downwards", y.arrives(40), 1);
+        Due.be("upwards", y.set(0, 4, 40) && y.runOut(0, 200) == 2 && y.arrives(20) == 1, true);
     }
 
     private static void arrives() {
@@ -194,6 +207,50 @@ public final class LandTest {
         Due.be("each left ahead of the gas", y.climb(1, 4), 4);
         Due.be("on the way it comes", y.climb(1, 5), 12);
         Due.be("at once it is there", y.climb(1, 6), -2);
+    }
+
+    /** One way out at a time, by each side; the land's edges are no ways. */
+    private static void climbSides() {
+        int[] sides = {-20, -1, 1, 20};
+        for (int open : sides) {
+            LakeBreath x = new LakeBreath();
+            x.land(2, 1);
+            x.set(0, 4, 210 - open);
+            x.height(210 - open, 40);
+            for (int side : sides) {
+                x.height(210 + side, side == open ? 61 : side == -open ? 40 : 500);
+                x.height(210 - open + side, side == open ? 20 : 500);
+            }
+            x.height(210, 20);
+            Due.be("to the village", x.runOut(0, 200), 2);
+            Due.be("at its side", x.arrives(210), 1);
+            x.village(210, 1);
+            Due.be("by the open side " + open, x.climb(0, 0), 2 + 4);
+        }
+        LakeBreath y = new LakeBreath();
+        y.set(0, 4, 39);
+        y.land(2, 1);
+        for (int c : new int[] {19, 38, 60}) {
+            y.height(c, 990);
+        }
+        y.runOut(0, 200);
+        Due.be("by the right edge", y.arrives(59), 1);
+        y.village(59, 1);
+        y.height(58, 990);
+        y.height(79, 980);
+        Due.be("no way over the right edge", y.climb(0, 0), 100);
+        LakeBreath z = new LakeBreath();
+        z.set(0, 4, 60);
+        z.land(2, 1);
+        for (int c : new int[] {61, 80}) {
+            z.height(c, 990);
+        }
+        z.runOut(0, 200);
+        Due.be("by the left edge", z.arrives(40), 1);
+        z.village(40, 1);
+        z.height(41, 990);
+        z.height(20, 980);
+        Due.be("no way over the left edge", z.climb(0, 0), 100);
     }
 
     private static void lost() {

@@ -8,6 +8,8 @@ public final class PipesTest {
         crew();
         plan();
         planOrder();
+        planOfAllThree();
+        planDays();
         planned();
         check();
         Due.end();
@@ -171,6 +173,48 @@ public final class PipesTest {
         Due.be("by the fewest moved", x.planned(0), 4);
         Due.be("then the lesser LAYER of the lesser PIPE", x.planned(1), 9);
         Due.be("it goes on", x.planned(2), 9);
+    }
+
+    private static void planOfAllThree() {
+        LakeBreath x = new LakeBreath();
+        for (int i = 0; i < 10; i++) {
+            x.layer(0, i, 0, 0, 100 * i);
+        }
+        x.set(0, 3, 1000);
+        for (int i = 7; i < 10; i++) {
+            x.layer(0, i, 500 * (i + 1), 0, 100 * i);
+        }
+        x.pipe(0, 0, 500, 0);
+        x.pipe(0, 0, 500, 0);
+        x.pipe(0, 0, 500, 0);
+        Due.be("all three are moved", x.plan(0, 30), 1);
+        Due.be("the lesser first", x.planned(0), 7);
+        Due.be("then", x.planned(1), 8);
+        Due.be("then", x.planned(2), 9);
+        Due.be("by the second alone", x.check(0, 30, 0, 8, 0), -2);
+        Due.be("each is tried where it is told", x.check(0, 30, 9, 7, 8), 1);
+        Due.be("the third too", x.check(0, 30, 9, 7, 0), -2);
+        Due.be("the second too", x.check(0, 30, 9, 0, 8), -2);
+        Due.be("the first too", x.check(0, 30, 0, 7, 8), -2);
+    }
+
+    /** DAYS of PLAN are 60 at most. */
+    private static void planDays() {
+        // With a MIX of 1,000 and GAS from 1,000 to 1,999 one a DAY goes up; the PIPE can take none elsewhere.
+        LakeBreath x = new LakeBreath();
+        for (int i = 0; i < 10; i++) {
+            x.layer(0, i, 0, 0, 100 * i);
+        }
+        x.set(0, 0, 200);
+        x.set(0, 3, 1000);
+        x.pipe(0, 9, 1, 0);
+        x.layer(0, 9, 1459, 0, 900);
+        Due.be("on the 60th DAY", x.check(0, 70, 9, 0, 0), 60);
+        Due.be("plan too", x.plan(0, 70), 60);
+        Due.be("planned", x.planned(0), 9);
+        x.layer(0, 9, 1460, 0, 900);
+        Due.be("on the 61st no more", x.check(0, 70, 9, 0, 0), -2);
+        Due.be("plan neither", x.plan(0, 70), -2);
     }
 
     private static void planned() {

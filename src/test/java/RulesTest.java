@@ -126,6 +126,16 @@ public final class RulesTest {
         Due.faulty(x, "live if wind - not = 1", 1, 15);
         Due.faulty(x, "live if wind + if = 1", 1, 15);
         Due.faulty(x, "live if wet $", 2, 8);
+        Due.faulty(x, "live if zzz = 1", 2, 8);
+        for (String word : new String[] {"gull", "curst", "sun", "crop", "lead", "kind", "bake", "may", "weight",
+            "fuller", "bursts", "ru", "dro", "deaf", "winx", "lakes", "dax", "heigh"}) {
+            Due.faulty(x, "live if " + word + " = 1", 2, 8);
+        }
+        for (String word : new String[] {"sired", "wore", "shot", "give", "jive", "liven"}) {
+            Due.faulty(x, word + " if 1 = 1", 2, 0);
+        }
+        Due.faulty(x, "wet", 2, 0);
+        Due.faulty(x, "abcdefghi", 1, 0);
         Due.faulty(x, "live if 5wet", 1, 9);
         Due.be("a WHOLE and a NAME that touch", Due.rule(x, "live if not wind<5and 3=3"), 0);
     }
@@ -198,6 +208,16 @@ public final class RulesTest {
         Due.be("the next number", Due.rule(x, "live if 1=1"), 1);
         Due.granted("the first", x, x.repeal(0));
         Due.be("shut is gone", x.says(0, 1), 0);
+        LakeBreath y = new LakeBreath();
+        for (int i = 0; i < 16; i++) {
+            Due.rule(y, i == 15 ? "siren if 1=1" : "live if 1=1");
+        }
+        Due.granted("one of 16", y, y.repeal(3));
+        Due.be("the last stays", y.says(0, 0), 1);
+        Due.be("room again", Due.rule(y, "shut if 1=1"), 15);
+        Due.granted("the last of 16", y, y.repeal(15));
+        Due.be("it is gone", y.says(0, 1), 0);
+        Due.be("not another", y.says(0, 0), 1);
     }
 
     private static void wind() {
@@ -338,6 +358,12 @@ public final class RulesTest {
         x.height(399, 20);
         Due.be("high enough", x.may(399), 1);
         Due.be("another", x.may(398), 0);
+        LakeBreath y = new LakeBreath();
+        Due.rule(y, "live if lake = 1");
+        Due.be("not for LAKE 0", y.may(0), 0);
+        y.repeal(0);
+        Due.rule(y, "live if lake = 0");
+        Due.be("not for LAKE 1", y.may(0), 0);
         Due.rule(x, "live if drop < 5 or height > 30");
         Due.be("all of live", x.may(399), 1);
         x.set(1, 1, 5);

@@ -253,6 +253,7 @@ public final class PipesTest {
         Due.be("the others are of no matter", x.check(0, 1, 0, 10, -1), 1);
         x.pipe(0, 4, 1, 0);
         Due.refused("check second", x, x.check(0, 1, 0, 10, 0), 2);
+        Due.be("the third is of no matter", x.check(0, 1, 0, 0, 10), 1);
         x.pipe(0, 4, 1, 0);
         Due.refused("check third", x, x.check(0, 1, 0, 0, 10), 2);
         x.layer(0, 9, 5000, 0, 100);

@@ -173,6 +173,19 @@ public final class EdgesOfLakesTest {
             Due.be(what + ", PIPES", x.led(0, 1), row[2]);
             Due.be(what + ", it RUNS on", x.pipeOf(0, 2), 1);
         }
+        for (int layer = 0; layer < 10; layer++) {
+            LakeBreath x = steady(10000, 1000);
+            x.pipe(0, layer, 500, 0);
+            x.start(0);
+            for (int i = 0; i < 10; i++) {
+                gas(x, i, 100 * (i + 1));
+            }
+            x.pass(1);
+            for (int i = 0; i < 10; i++) {
+                int was = 100 * (i + 1);
+                Due.be("DAY (2): LAYER " + i + ", a PIPE at " + layer, x.of(0, i, GAS), i == layer ? was / 2 : was);
+            }
+        }
     }
 
     private static void lift() {
